@@ -67,6 +67,7 @@ public final class LateMoons {
     private static final int NUMBER_ZERO = 3;
     private static final int[] NUMBERS_TO = {1, 7, 49, 343};
     private static final int ALL_NUMBERS = 343;
+    private static final int WHOLE = -1;
 
     private static final int MOST_NIGHTS = 12;
     private static final int MOST_WATCHED = 4;
@@ -261,7 +262,7 @@ public final class LateMoons {
         if (no != FINE) {
             return refuseLong(no);
         }
-        Fitter fitter = judge.fitted(table, m, set);
+        Fitter fitter = judge.fitted(table, WHOLE, m, set);
         if (what == 0) {
             return fitter.fitNumbers();
         }
@@ -275,7 +276,7 @@ public final class LateMoons {
         if (no != FINE) {
             return refuseLong(no);
         }
-        int numbers = judge.fitted(table, world.sights.moon[sight], set).fitNumbers();
+        int numbers = judge.fitted(table, WHOLE, world.sights.moon[sight], set).fitNumbers();
         return world.leftOf(sight, table, numbers);
     }
 
@@ -285,7 +286,7 @@ public final class LateMoons {
         if (no != FINE) {
             return refuseLong(no);
         }
-        int numbers = judge.fitted(table, m, set).fitNumbers();
+        int numbers = judge.fitted(table, WHOLE, m, set).fitNumbers();
         return world.seasonOf(table, m, set, numbers);
     }
 
@@ -298,14 +299,18 @@ public final class LateMoons {
         if (no != FINE) {
             return refuseLong(no);
         }
-        long whole = judge.fitted(table, m, set).score();
-        return judge.fittedWithout(table, term, m, set).score() - whole;
+        long whole = judge.fitted(table, WHOLE, m, set).score();
+        return judge.fitted(table, term, m, set).score() - whole;
     }
 
     public int best(int m, long set) {
         int no = then(noMoon(m), noTables());
         no = then(no, wrongSet(set));
-        return no != FINE ? refuse(no) : judge.bestFor(m, set);
+        if (no != FINE) {
+            return refuse(no);
+        }
+        judge.gather(m, set);
+        return judge.bestNow();
     }
 
     public int allMoons(int table) {
@@ -323,7 +328,7 @@ public final class LateMoons {
         if (no != FINE) {
             return refuseLong(no);
         }
-        long said = world.said(table, m, k, judge.fitted(table, m, set).fitNumbers());
+        long said = world.said(table, m, k, judge.fitted(table, WHOLE, m, set).fitNumbers());
         return err ? world.seenAt(m, k) - said : said;
     }
 
@@ -333,7 +338,12 @@ public final class LateMoons {
         no = then(no, a < 0 || b < 0 ? BELOW : FINE);
         no = then(no, a > LAST_FADING || b > LAST_FADING ? ROOM : FINE);
         no = then(no, b < a ? STATE : FINE);
-        return no != FINE ? refuse(no) : judge.furthestApart(one, two, m, a, b);
+        if (no != FINE) {
+            return refuse(no);
+        }
+        int oneNumbers = judge.fitted(one, WHOLE, m, allSights()).fitNumbers();
+        int twoNumbers = judge.fitted(two, WHOLE, m, allSights()).fitNumbers();
+        return world.furthestApart(one, oneNumbers, two, twoNumbers, m, a, b);
     }
 
     public int rhythm(int x, int y, int z) {
@@ -374,12 +384,21 @@ public final class LateMoons {
 
     public int believes(int holder, int day, int m) {
         int no = wrongHolding(holder, day, m);
-        return no != FINE ? refuse(no) : judge.bestFor(m, world.sights.cameTo(holder, day));
+        if (no != FINE) {
+            return refuse(no);
+        }
+        judge.gather(m, world.sights.cameTo(holder, day));
+        return judge.bestNow();
     }
 
     public long turn(int holder, int day, int m) {
         int no = wrongHolding(holder, day, m);
-        return no != FINE ? refuseLong(no) : judge.turningSights(m, world.sights.cameTo(holder, day));
+        if (no != FINE) {
+            return refuseLong(no);
+        }
+        long had = world.sights.cameTo(holder, day);
+        judge.gather(m, had);
+        return judge.turningSights(m, had);
     }
 
     public int watch(int m, int a, int b, int n) {
@@ -394,7 +413,7 @@ public final class LateMoons {
         }
         int nights = b - a + 1;
         for (int t = 0; t < world.tables.size; t++) {
-            watcher.hear(t, m, a, nights, judge.fitted(t, m, allSights()).fitNumbers());
+            watcher.hear(t, m, a, nights, judge.fitted(t, WHOLE, m, allSights()).fitNumbers());
         }
         watcher.compareTables(nights);
         return watcher.bestNights(nights, n);
@@ -630,6 +649,19 @@ public final class LateMoons {
                 }
             }
             return sum;
+        }
+
+        int furthestApart(int one, int oneNumbers, int two, int twoNumbers, int m, int a, int b) {
+            long furthest = -1;
+            int answer = a;
+            for (int k = a; k <= b; k++) {
+                long gap = Math.abs(said(one, m, k, oneNumbers) - said(two, m, k, twoNumbers));
+                if (gap > furthest) {
+                    furthest = gap;
+                    answer = k;
+                }
+            }
+            return answer;
         }
 
         boolean hasPair(int a, int b, boolean towns) {
@@ -962,6 +994,7 @@ public final class LateMoons {
         private final World world;
         private final long[] lefts;
         private final long[] sums = new long[ALL_NUMBERS];
+        private final int[] shares = new int[NUMBERS];
         private final int[] terms = new int[MOST_TERMS];
         private int termCount;
         private int tries;
@@ -973,7 +1006,7 @@ public final class LateMoons {
             this.lefts = lefts;
         }
 
-        /** Begins with no sights; the term at the place without stays out (-1: none does). */
+        /** Begins with no sights; the term at the place without stays out. */
         void start(int table, int without, int m) {
             ofMoon = m;
             termCount = 0;
@@ -1082,26 +1115,19 @@ public final class LateMoons {
             int far = world.farOf(guessed);
             lefts[0] = world.putRight(s) - guessed;
             for (int i = 0; i < termCount; i++) {
+                for (int d = 0; d < NUMBERS; d++) {
+                    shares[d] = world.share(terms[i], d - NUMBER_ZERO, ofMoon, k, far);
+                }
                 widen(NUMBERS_TO[i]);
-                lessShares(NUMBERS_TO[i + 1], terms[i], k, far);
             }
         }
 
-        /** Each of so many lefts stands seven times; from the last on, as the row is widened within itself. */
+        /** Each of so many lefts becomes seven; from the last on, as the row is widened within itself. */
         private void widen(int filled) {
             for (int at = filled - 1; at >= 0; at--) {
                 long left = lefts[at];
                 for (int d = 0; d < NUMBERS; d++) {
-                    lefts[at * NUMBERS + d] = left;
-                }
-            }
-        }
-
-        private void lessShares(int filled, int term, int k, int far) {
-            for (int d = 0; d < NUMBERS; d++) {
-                int share = world.share(term, d - NUMBER_ZERO, ofMoon, k, far);
-                for (int at = d; at < filled; at += NUMBERS) {
-                    lefts[at] -= share;
+                    lefts[at * NUMBERS + d] = left - shares[d];
                 }
             }
         }
@@ -1121,22 +1147,27 @@ public final class LateMoons {
             }
         }
 
-        Fitter fitted(int table, int m, long set) {
-            return fittedWithout(table, -1, m, set);
-        }
-
-        Fitter fittedWithout(int table, int term, int m, long set) {
+        /** One table's fitter with the sights of a set, without one term or WHOLE. */
+        Fitter fitted(int table, int without, int m, long set) {
             Fitter fitter = fitters[table];
-            fitter.start(table, term, m);
+            fitter.start(table, without, m);
             fitter.addSet(set);
             return fitter;
         }
 
-        int bestFor(int m, long set) {
+        void gather(int m, long set) {
+            for (int t = 0; t < world.tables.size; t++) {
+                fitters[t].start(t, WHOLE, m);
+                fitters[t].addSet(set);
+            }
+        }
+
+        /** The best table by what was gathered. */
+        int bestNow() {
             int best = 0;
             long least = Long.MAX_VALUE;
             for (int t = 0; t < world.tables.size; t++) {
-                long score = fitted(t, m, set).score();
+                long score = fitters[t].score();
                 if (score < least) {
                     least = score;
                     best = t;
@@ -1150,31 +1181,16 @@ public final class LateMoons {
             int bits = (1 << NUMBERS) - 1;
             for (int m = 0; m < MOONS; m++) {
                 if (world.moons.there[m]) {
-                    fitters[table].start(table, -1, m);
+                    fitters[table].start(table, WHOLE, m);
                     bits &= fitters[table].bitsWithin(world.settings[SLACK], place);
                 }
             }
             return bits;
         }
 
-        int furthestApart(int one, int two, int m, int a, int b) {
-            long all = -1L;
-            int oneNumbers = fitted(one, m, all).fitNumbers();
-            int twoNumbers = fitted(two, m, all).fitNumbers();
-            long furthest = -1;
-            int answer = a;
-            for (int k = a; k <= b; k++) {
-                long gap = Math.abs(world.said(one, m, k, oneNumbers) - world.said(two, m, k, twoNumbers));
-                if (gap > furthest) {
-                    furthest = gap;
-                    answer = k;
-                }
-            }
-            return answer;
-        }
-
+        /** Had are the sights that were gathered. */
         long turningSights(int m, long had) {
-            int believed = bestFor(m, had);
+            int believed = bestNow();
             int found = findOthers(m, had);
             for (int i = 0; i < found; i++) {
                 if (bestWith(others[i]) != believed) {

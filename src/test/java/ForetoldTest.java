@@ -109,6 +109,7 @@ public final class ForetoldTest {
         CHECK.due("all the same: 0, 1, -1", rhythm(5000, 5000, 5000), 342);
         CHECK.due("the last two the same", rhythm(999999, 1000, 1000), 342);
         CHECK.due("the first two the same: 1, -1, 0", rhythm(1000, 1000, 999983), 423);
+        CHECK.due("nothing near: 0, 0, 1", rhythm(1000, 1700, 999999), 334);
         CHECK.due("the greatest periods: 0, 1, -1", rhythm(999999, 999999, 999999), 342);
     }
 

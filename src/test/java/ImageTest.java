@@ -59,6 +59,7 @@ public final class ImageTest {
                 break;
             case 1:
                 x.moon(0, 1, 1001, 1, 1);
+                x.moon(1, 1, 1001, 1, 1);
                 break;
             case 2:
                 x.pull(0, 1, -2);
@@ -78,10 +79,12 @@ public final class ImageTest {
                 x.tool(which - 8, 2, 77);
                 break;
             case 12:
-                x.sight(0, 1, 0, 5);
                 x.takeBack();
                 x.takeBack();
-                x.sight(1, 9, 1203, 5);
+                x.takeBack();
+                x.sight(1, 9, 2421, 5);
+                x.sight(1, 9, 7012, 5);
+                x.sight(2, 9, 6220, 5);
                 break;
             case 13:
                 x.feed(1, 'e');
@@ -140,7 +143,7 @@ public final class ImageTest {
 
     private static void counts() {
         LateMoons x = Look.rich();
-        int[] due = {3, 12, 1, 3, 9, 4, 9};
+        int[] due = {3, 14, 1, 3, 9, 4, 9};
         for (int what = 0; what < due.length; what++) {
             CHECK.due("count(" + what + ")", x.count(what), due[what]);
         }

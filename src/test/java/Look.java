@@ -42,6 +42,8 @@ final class Look {
         }
         x.image();
         x.sight(2, 1, 3200, 4009);
+        x.sight(0, 4, 6330, 42009);
+        x.sight(1, 4, 7103, 28009);
         x.send(3, 0, 999);
         Check.putAll(x, 0, 5, 0, 0, 0, 0, 0, 9, 1);
         Check.feed(x, "o+p2");

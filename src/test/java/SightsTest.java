@@ -157,6 +157,13 @@ public final class SightsTest {
         CHECK.due("out", x.right(1), 100050 - 40);
         CHECK.due("sent to nobody", x.count(6), 0);
         CHECK.due("nothing more", x.read(), 0);
+        x.tool(1, 2, 10);
+        Check.putAll(x, 0, 3, 6, 1, 2, 3, 1, 72800);
+        CHECK.due("one more", x.read(), 1);
+        CHECK.due("by its clock", x.right(3), 172820);
+        x.sight(0, 3, 0, 172800);
+        CHECK.due("of its fading, in its town", x.apart(3, 0, 0), 20);
+        CHECK.due("by its eye", x.apart(1, 0, 2), 20);
         CHECK.due("no refusals", x.count(11) + x.count(14) + x.count(16), 0);
     }
 
