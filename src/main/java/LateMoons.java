@@ -45,7 +45,7 @@ public final class LateMoons {
     private static final int LOSSES = 1;
     private static final int CLOCK_SETS = 2;
     private static final int OFFSETS = 3;
-    private static final int[] TOOL_HOLDERS = {EYES, CLOCKS, CLOCKS, TOWNS};
+    private static final int[] TOOL_HOLDERS = {6, 4, 4, 4};
     private static final int[] TOOL_LEAST = {-99, -99, 0, -43200};
     private static final int[] TOOL_GREATEST = {99, 99, 999999999, 43200};
 
@@ -55,9 +55,7 @@ public final class LateMoons {
     private static final int KIND_CLOUDED = 5;
     private static final int KIND_CLOCKED = 6;
     private static final int KIND_FAR = 7;
-    private static final int[] ROW_GREATEST = {
-        MOONS - 1, LAST_FADING, KIND_FAR, EYES - 1, CLOCKS - 1, TOWNS - 1,
-        LAST_SECOND / SECOND_SPLIT, SECOND_SPLIT - 1};
+    private static final int[] ROW_GREATEST = {3, 999, 7, 5, 3, 3, 19999, 99999};
 
     private static final int TERM_EVEN = 0;
     private static final int TERM_OUT = 1;

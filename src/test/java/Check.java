@@ -55,4 +55,19 @@ final class Check {
             x.put(n);
         }
     }
+
+    /** Moon 0, which fades and is guessed at k times 1000, with tables. */
+    static LateMoons with(String... texts) {
+        LateMoons x = new LateMoons();
+        x.moon(0, 0, 1000, 0, 0);
+        for (String text : texts) {
+            table(x, text);
+        }
+        return x;
+    }
+
+    /** A sight of moon 0 that is off its guess by so much. */
+    static void off(LateMoons x, int k, int by) {
+        x.sight(0, k, 0, 1000 * k + by);
+    }
 }

@@ -21,32 +21,17 @@ public final class FitTest {
         CHECK.end();
     }
 
-    /** Moon 0 guessed at k times 1000, with tables. */
-    private static LateMoons with(String... texts) {
-        LateMoons x = new LateMoons();
-        x.moon(0, 0, 1000, 0, 0);
-        for (String text : texts) {
-            Check.table(x, text);
-        }
-        return x;
-    }
-
-    /** A sight of moon 0 that is off its guess by so much. */
-    private static void off(LateMoons x, int k, int by) {
-        x.sight(0, k, 0, 1000 * k + by);
-    }
-
     private static void firstOfSeveral() {
-        LateMoons x = with("e", "e+o", "o+e", "p0+e", "e+p0");
+        LateMoons x = Check.with("e", "e+o", "o+e", "p0+e", "e+p0");
         CHECK.due("no sights: all -3", x.fit(1, 0, 0, 0), 0);
         CHECK.due("no sights: nothing left", x.fit(1, 0, 0, 2), 0);
         CHECK.due("no sights: the price alone", x.fit(1, 0, 0, 1), 100);
-        off(x, 1, 0);
-        off(x, 1, 10);
+        Check.off(x, 1, 0);
+        Check.off(x, 1, 10);
         CHECK.due("0 and 1 are as good", x.fit(0, 0, 3, 0), 3);
         CHECK.due("sum", x.fit(0, 0, 3, 2), 10);
         CHECK.due("score", x.fit(0, 0, 3, 1), 60);
-        off(x, 1, 30);
+        Check.off(x, 1, 30);
         CHECK.due("the first term is the slowest", x.fit(1, 0, 4, 0), 35);
         CHECK.due("the other way round", x.fit(2, 0, 4, 0), 45);
         CHECK.due("what changes nothing is -3", x.fit(3, 0, 4, 0), 42);
@@ -56,23 +41,23 @@ public final class FitTest {
     }
 
     private static void threeTerms() {
-        LateMoons x = with("e+o+p1");
-        off(x, 1, 210);
+        LateMoons x = Check.with("e+o+p1");
+        Check.off(x, 1, 210);
         CHECK.due("numbers", x.fit(0, 0, 1, 0), 339);
         CHECK.due("sum", x.fit(0, 0, 1, 2), 0);
         CHECK.due("score", x.fit(0, 0, 1, 1), 150);
-        off(x, 1, 1000000);
+        Check.off(x, 1, 1000000);
         CHECK.due("beyond all", x.fit(0, 0, 2, 0), 342);
         CHECK.due("what is left then", x.fit(0, 0, 2, 2), 1000000 - 240);
     }
 
     private static void onlyItsSights() {
-        LateMoons x = with("e");
+        LateMoons x = Check.with("e");
         x.moon(1, 0, 1000, 0, 0);
-        off(x, 1, 20);
+        Check.off(x, 1, 20);
         x.sight(1, 1, 0, 1500);
         x.sight(0, 1, 5000, 1500);
-        off(x, 1, -20);
+        Check.off(x, 1, -20);
         CHECK.due("of one moon, not clouded", x.fit(0, 0, 7, 0), 5);
         CHECK.due("all fits", x.fit(0, 0, 7, 2), 0);
         CHECK.due("of the set alone", x.fit(0, 0, 8, 0), 1);
@@ -82,8 +67,8 @@ public final class FitTest {
     }
 
     private static void fitRefuses() {
-        LateMoons x = with("e");
-        off(x, 1, 0);
+        LateMoons x = Check.with("e");
+        Check.off(x, 1, 0);
         CHECK.due("no table", x.fit(1, 0, -1, 9), Check.no(-1));
         CHECK.due("no table", x.fit(-1, 0, 0, 0), Check.no(-1));
         CHECK.due("no moon", x.fit(0, 4, 0, 0), Check.no(-1));
@@ -97,18 +82,18 @@ public final class FitTest {
         CHECK.due("-2 counted", x.count(12), 2);
         CHECK.due("-4 counted", x.count(14), 1);
         CHECK.due("-6 counted", x.count(16), 2);
-        LateMoons y = with("e");
+        LateMoons y = Check.with("e");
         for (int i = 0; i < 40; i++) {
-            off(y, 1, 10);
+            Check.off(y, 1, 10);
         }
         CHECK.due("all forty", y.fit(0, 0, (1L << 40) - 1, 0), 4);
         CHECK.due("the forty-first", y.fit(0, 0, 1L << 40, 0), Check.no(-6));
     }
 
     private static void leftOfSights() {
-        LateMoons x = with("e");
-        off(x, 1, 25);
-        off(x, 2, -7);
+        LateMoons x = Check.with("e");
+        Check.off(x, 1, 25);
+        Check.off(x, 2, -7);
         CHECK.due("by its own fit", x.left(0, 0, 1), 5);
         CHECK.due("of another one", x.left(0, 1, 1), -27);
         CHECK.due("by the other's", x.left(0, 0, 2), 35);
@@ -120,8 +105,8 @@ public final class FitTest {
     }
 
     private static void leftRefuses() {
-        LateMoons x = with("e");
-        off(x, 1, 0);
+        LateMoons x = Check.with("e");
+        Check.off(x, 1, 0);
         x.sight(0, 1, 5000, 0);
         CHECK.due("no table", x.left(1, 0, -1), Check.no(-1));
         CHECK.due("no table", x.left(-1, 0, 0), Check.no(-1));
@@ -135,7 +120,7 @@ public final class FitTest {
     }
 
     private static void seasons() {
-        LateMoons x = with("e");
+        LateMoons x = Check.with("e");
         x.set(1, 10000);
         x.guess(0, 0, 2500);
         x.sight(0, 1, 0, 2514);
@@ -152,7 +137,7 @@ public final class FitTest {
     }
 
     private static void seasonRefuses() {
-        LateMoons x = with("e");
+        LateMoons x = Check.with("e");
         CHECK.due("no table", x.season(1, 0, -1), Check.no(-1));
         CHECK.due("no moon", x.season(0, 1, 1), Check.no(-1));
         CHECK.due("no moon", x.season(0, -1, 1), Check.no(-1));
@@ -163,10 +148,10 @@ public final class FitTest {
 
     /** Left of e alone 80, of o alone and of both 20, of none 90. */
     private static LateMoons withWaves(String... texts) {
-        LateMoons x = with(texts);
-        off(x, 1, 10);
-        off(x, 2, 40);
-        off(x, 6, -40);
+        LateMoons x = Check.with(texts);
+        Check.off(x, 1, 10);
+        Check.off(x, 2, 40);
+        Check.off(x, 6, -40);
         return x;
     }
 
@@ -187,7 +172,7 @@ public final class FitTest {
     }
 
     private static void worthRefuses() {
-        LateMoons x = with("e+o", "e");
+        LateMoons x = Check.with("e+o", "e");
         CHECK.due("no table", x.worth(2, 0, 0, -1), Check.no(-1));
         CHECK.due("no term", x.worth(0, 2, 0, -1), Check.no(-1));
         CHECK.due("no term", x.worth(0, -1, 0, 0), Check.no(-1));
@@ -210,7 +195,7 @@ public final class FitTest {
     }
 
     private static void bestRefuses() {
-        LateMoons x = with();
+        LateMoons x = Check.with();
         CHECK.due("no moon", x.best(1, -1), -1);
         CHECK.due("no moon", x.best(-1, -1), -1);
         CHECK.due("no tables", x.best(0, -1), -3);
@@ -266,7 +251,7 @@ public final class FitTest {
     }
 
     private static void allMoonsRefuses() {
-        LateMoons x = with("e", "o+p1+p2", "l");
+        LateMoons x = Check.with("e", "o+p1+p2", "l");
         CHECK.due("without l", x.allMoons(0), -1);
         CHECK.due("without l", x.allMoons(1), -1);
         CHECK.due("no table", x.allMoons(3), -1);

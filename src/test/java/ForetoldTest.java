@@ -15,21 +15,8 @@ public final class ForetoldTest {
         CHECK.end();
     }
 
-    private static LateMoons with(String... texts) {
-        LateMoons x = new LateMoons();
-        x.moon(0, 0, 1000, 0, 0);
-        for (String text : texts) {
-            Check.table(x, text);
-        }
-        return x;
-    }
-
-    private static void off(LateMoons x, int k, int by) {
-        x.sight(0, k, 0, 1000 * k + by);
-    }
-
     private static void foretold() {
-        LateMoons x = with("e");
+        LateMoons x = Check.with("e");
         x.moon(0, 100, 1000, 0, 0);
         x.set(0, 1000);
         x.set(1, 10000);
@@ -45,7 +32,7 @@ public final class ForetoldTest {
     }
 
     private static void foretoldRefuses() {
-        LateMoons x = with("e");
+        LateMoons x = Check.with("e");
         CHECK.due("no table", x.foretold(1, 0, -1, -1, true), Check.no(-1));
         CHECK.due("no table", x.foretold(-1, 0, 0, 0, false), Check.no(-1));
         CHECK.due("no moon", x.foretold(0, 1, 1000, 1, true), Check.no(-1));
@@ -60,10 +47,10 @@ public final class ForetoldTest {
 
     /** Fits: e 1; o 1. So they are 10 less 10 waves apart: 10, 20, 30, 20, 10, 40, 50, 40, and again. */
     private static void parts() {
-        LateMoons x = with("e", "o");
-        off(x, 1, 10);
-        off(x, 2, 40);
-        off(x, 6, -40);
+        LateMoons x = Check.with("e", "o");
+        Check.off(x, 1, 10);
+        Check.off(x, 2, 40);
+        Check.off(x, 6, -40);
         CHECK.due("of all", x.parts(0, 1, 0, 0, 999), 6);
         CHECK.due("the other way round", x.parts(1, 0, 0, 0, 999), 6);
         CHECK.due("to 5", x.parts(0, 1, 0, 0, 5), 5);
@@ -74,13 +61,13 @@ public final class ForetoldTest {
         CHECK.due("one alone", x.parts(0, 1, 0, 999, 999), 999);
         CHECK.due("a table and itself", x.parts(0, 0, 0, 3, 9), 3);
         for (int i = 0; i < 4; i++) {
-            off(x, 8, -10);
+            Check.off(x, 8, -10);
         }
         CHECK.due("e -1 by all sights", x.parts(0, 1, 0, 0, 9), 2);
     }
 
     private static void partsRefuses() {
-        LateMoons x = with("e", "o");
+        LateMoons x = Check.with("e", "o");
         CHECK.due("no table", x.parts(2, 0, 0, -1, -1), -1);
         CHECK.due("no table", x.parts(0, 2, 0, 1, 1), -1);
         CHECK.due("no table", x.parts(0, -1, 0, 1, 1), -1);
@@ -134,11 +121,11 @@ public final class ForetoldTest {
      * 0 10 40 70 0 70 40 10, o and e by 10 40 50 40 10 20 30 20, p1 and e by 10 50 10 30 10 50 10 30.
      */
     private static LateMoons withThree() {
-        LateMoons x = with("o", "p1", "e");
-        off(x, 2, 40);
-        off(x, 6, -40);
-        off(x, 1, 70);
-        off(x, 3, -10);
+        LateMoons x = Check.with("o", "p1", "e");
+        Check.off(x, 2, 40);
+        Check.off(x, 6, -40);
+        Check.off(x, 1, 70);
+        Check.off(x, 3, -10);
         return x;
     }
 
@@ -156,7 +143,7 @@ public final class ForetoldTest {
     }
 
     private static void nightsWithFewTables() {
-        LateMoons x = with();
+        LateMoons x = Check.with();
         CHECK.due("no tables: the least", x.watch(0, 0, 11, 3), 7);
         Check.table(x, "e");
         CHECK.due("one table: the least", x.watch(0, 0, 11, 4), 15);
