@@ -1,6 +1,7 @@
 /** Promises 32 to 34: image, restore, count. */
 public final class ImageTest {
     private static final Check CHECK = new Check();
+    private static final int CHANGES = 16;
 
     public static void main(String[] args) {
         imageAndRestore();
@@ -34,22 +35,28 @@ public final class ImageTest {
 
     /** One change of each kind after the image; restored it looks as one that was never changed. */
     private static void everythingComesBack() {
-        LateMoons still = Look.rich();
-        still.image();
-        for (int change = 0; change < 16; change++) {
-            LateMoons x = Look.rich();
-            x.image();
-            change(x, change);
-            x.restore();
-            CHECK.same("restored after change " + change, Look.atWorld(x), Look.atWorld(still));
+        String still = Look.atWorld(() -> changed(0, -1, true));
+        for (int change = 0; change < CHANGES; change++) {
+            int which = change;
+            String then = Look.atWorld(() -> changed(which, which, false));
+            CHECK.due("change " + change + " can be seen", then.equals(still) ? 0 : 1, 1);
+            CHECK.same("restored after change " + change, Look.atWorld(() -> changed(which, which, true)), still);
         }
+        CHECK.same("restored after all changes", Look.atWorld(() -> changed(0, CHANGES - 1, true)), still);
+    }
+
+    /** The text goes on, so it is used up before: or it would differ after the change that uses it. */
+    private static LateMoons changed(int first, int last, boolean restored) {
         LateMoons x = Look.rich();
+        x.table();
         x.image();
-        for (int change = 0; change < 16; change++) {
+        for (int change = first; change <= last; change++) {
             change(x, change);
         }
-        x.restore();
-        CHECK.same("restored after all changes", Look.atWorld(x), Look.atWorld(still));
+        if (restored) {
+            x.restore();
+        }
+        return x;
     }
 
     private static void change(LateMoons x, int which) {

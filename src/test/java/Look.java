@@ -1,3 +1,5 @@
+import java.util.function.Supplier;
+
 /** A world with something of everything in it, and all that can be seen of a world, as a text. */
 final class Look {
     private Look() {
@@ -19,13 +21,13 @@ final class Look {
         for (int i = 0; i < 4; i++) {
             x.tool(0, i, 3 * i - 4);
             x.tool(1, i, 20 * i + 5);
-            x.tool(2, i, 100 * i);
+            x.tool(2, i, 7000000 * i + 90000);
             x.tool(3, i, 50 * i - 60);
         }
         x.tool(0, 4, 11);
         x.tool(0, 5, -13);
-        for (int m = 0; m < 3; m++) {
-            x.guess(m, 10000 - 4000 * m, 8000 - 1000 * m);
+        for (int m = 0; m < 4; m++) {
+            x.guess(m, 10000 - 3000 * m, 8000 - 1000 * m);
         }
         for (int i = 0; i < 4; i++) {
             x.sight(i % 3, i, 6000 + 100 * i + 10 * i + i, 20000 + 8000 * i);
@@ -50,47 +52,117 @@ final class Look {
         return x;
     }
 
-    /** What the image keeps, as far as calls tell it; the calls that are refused tell something, too. */
-    static String atWorld(LateMoons x) {
-        StringBuilder b = new StringBuilder();
-        for (int what = 0; what <= 3; what++) {
-            b.append(x.count(what)).append(' ');
-        }
-        b.append(x.count(6)).append(" moons ");
-        for (int m = 0; m < 4; m++) {
-            for (int k = 0; k < 4; k++) {
-                b.append(x.fading(m, k, k == 3)).append(' ');
-            }
-        }
-        b.append("far ").append(x.far(12345)).append(" sights ");
-        for (int s = 0; s < x.count(1); s++) {
-            b.append(x.right(s)).append(' ');
-        }
-        b.append("tables ");
-        long all = (1L << x.count(1)) - 1;
-        for (int t = 0; t < x.count(3); t++) {
-            b.append(x.allMoons(t)).append(' ');
-            for (int m = 0; m < 4; m++) {
-                b.append(x.says(t, m, 1, 0)).append(' ').append(x.fit(t, m, all, 1)).append(' ');
-            }
-        }
-        b.append("post ");
-        for (int h = 0; h < 4; h++) {
-            for (int day : new int[] {0, 100, 300, 500, 999}) {
-                b.append(x.has(h, day)).append(' ');
-            }
-        }
+    /**
+     * All of a world, its image too, but for how many refusals there were. To look is to use it up, and an object is
+     * good for 512 calls: so each view is of a world made anew.
+     */
+    static String atAll(Supplier<LateMoons> made) {
+        LateMoons restored = made.get();
+        StringBuilder b = new StringBuilder(atWorld(made));
+        b.append(" image ").append(restored.restore());
+        b.append(atWorld(() -> {
+            LateMoons x = made.get();
+            x.restore();
+            return x;
+        }));
         return b.toString();
     }
 
-    /** All: the rows, the text and the image are looked at by using them up. */
-    static String atAll(LateMoons x) {
-        StringBuilder b = new StringBuilder(atWorld(x));
-        b.append("rows ").append(x.count(4)).append(" text ").append(x.count(5));
-        b.append(" table ").append(x.table()).append(" read ").append(x.read());
-        b.append(" then ").append(atWorld(x));
-        b.append(" restored ").append(x.restore()).append(' ').append(atWorld(x));
+    /** All but the image. */
+    static String atWorld(Supplier<LateMoons> made) {
+        StringBuilder b = new StringBuilder();
+        atMoonsAndTables(made.get(), b);
+        atSights(made.get(), b);
+        atTools(made.get(), b);
         return b.toString();
+    }
+
+    private static void atMoonsAndTables(LateMoons x, StringBuilder b) {
+        b.append(" counts");
+        for (int what = 0; what <= 6; what++) {
+            add(b, x.count(what));
+        }
+        b.append(" text");
+        add(b, x.table());
+        b.append(" moons");
+        for (int m = 0; m < 4; m++) {
+            for (int k = 0; k < 4; k++) {
+                add(b, x.fading(m, k, false));
+            }
+        }
+        b.append(" settings");
+        for (int what = 0; what <= 4; what++) {
+            add(b, x.set(what, what == 1 ? 50000 : 7));
+        }
+        b.append(" pulls");
+        for (int m = 0; m < 4; m++) {
+            for (int by = 0; by < 4; by++) {
+                add(b, x.pull(m, by, 0));
+            }
+        }
+        b.append(" guesses");
+        for (int m = 0; m < 4; m++) {
+            add(b, x.moon(m, 1, 1000, 0, 0));
+            add(b, x.says(0, m, 0, 3));
+            add(b, x.says(0, m, 1, 3));
+        }
+        b.append(" tables");
+        for (int t = 0; t < 8; t++) {
+            add(b, x.says(t, 0, 1, 0));
+            add(b, x.says(t, 0, 2, 6));
+            add(b, x.says(t, 0, 1, 48));
+            add(b, x.says(t, 0, 3, 342));
+        }
+    }
+
+    private static void atSights(LateMoons x, StringBuilder b) {
+        b.append(" rows");
+        add(b, x.read());
+        b.append(" sights");
+        int sights = x.count(1);
+        for (int s = 0; s < sights; s++) {
+            add(b, x.right(s));
+            add(b, x.left(0, s, 0));
+        }
+        b.append(" apart");
+        for (int i = 0; i < 15; i++) {
+            int a = new int[] {0, 0, 0, 1, 1, 2, 0, 1, 2, 3, 0, 1, 2, 3, 4}[i];
+            int c = new int[] {1, 2, 3, 2, 3, 3, 4, 4, 4, 4, 5, 5, 5, 5, 5}[i];
+            for (int what = i < 6 ? 0 : 2; what <= 3; what++) {
+                add(b, x.apart(a, c, what));
+            }
+        }
+        b.append(" post");
+        for (int s = 0; s < sights; s++) {
+            for (int h = 0; h < 4; h++) {
+                add(b, x.send(s, h, -1));
+            }
+        }
+    }
+
+    /** By sights that are made for it; the latest ones make room for them. */
+    private static void atTools(LateMoons x, StringBuilder b) {
+        for (int i = 0; i < 24 && x.count(1) > 18; i++) {
+            x.takeBack();
+        }
+        b.append(" eyes");
+        for (int eye = 0; eye <= 5; eye++) {
+            add(b, x.right(x.sight(0, 0, 100 * eye, 5000)));
+        }
+        b.append(" clocks and towns");
+        for (int i = 0; i <= 3; i++) {
+            add(b, x.right(x.sight(0, 0, 6000 + 10 * i, 0)));
+            add(b, x.right(x.sight(0, 0, 6000 + 10 * i, 1999999999)));
+            add(b, x.right(x.sight(0, 0, 7000 + i, 50000)));
+        }
+        b.append(" lengths");
+        for (int m = 0; m <= 3; m++) {
+            add(b, x.right(x.sight(m, 0, 2000, 20000)));
+        }
+    }
+
+    private static void add(StringBuilder b, long answer) {
+        b.append(' ').append(answer);
     }
 
     static String refusals(LateMoons x) {
