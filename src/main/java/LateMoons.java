@@ -11,6 +11,7 @@ public final class LateMoons {
     private static final int PULL_REFUSALS = -100;
     private static final int FAULTS = -20;
     private static final long LONG_REFUSALS = -4000000000000000000L;
+    private static final long ABOVE_ALL = 9223372036854775807L;
 
     private static final int MOONS = 4;
     private static final int EYES = 6;
@@ -674,7 +675,7 @@ public final class LateMoons {
         }
 
         long leastApart(int a, int b, boolean towns) {
-            long least = Long.MAX_VALUE;
+            long least = ABOVE_ALL;
             for (int s = 0; s < sights.size; s++) {
                 for (int r = 0; r < sights.size; r++) {
                     if (isPair(s, r, a, b, towns)) {
@@ -732,7 +733,7 @@ public final class LateMoons {
             long byX = (long) period[y] * period[z];
             long byY = (long) period[x] * period[z];
             long byZ = (long) period[x] * period[y];
-            long least = Long.MAX_VALUE;
+            long least = ABOVE_ALL;
             int answer = 0;
             for (int i = 0; i < ALL_NUMBERS; i++) {
                 int a = i / 49 - NUMBER_ZERO;
@@ -1072,7 +1073,7 @@ public final class LateMoons {
 
         long scoreWith(int s) {
             spread(s);
-            long least = Long.MAX_VALUE;
+            long least = ABOVE_ALL;
             for (int c = 0; c < tries; c++) {
                 least = Math.min(least, sums[c] + Math.abs(lefts[c]));
             }
@@ -1163,7 +1164,7 @@ public final class LateMoons {
         /** The best table by what was gathered. */
         int bestNow() {
             int best = 0;
-            long least = Long.MAX_VALUE;
+            long least = ABOVE_ALL;
             for (int t = 0; t < world.tables.size; t++) {
                 long score = fitters[t].score();
                 if (score < least) {
@@ -1221,7 +1222,7 @@ public final class LateMoons {
 
         private int bestWith(int s) {
             int best = 0;
-            long least = Long.MAX_VALUE;
+            long least = ABOVE_ALL;
             for (int t = 0; t < world.tables.size; t++) {
                 long score = fitters[t].scoreWith(s);
                 if (score < least) {

@@ -11,19 +11,15 @@ import java.util.TreeSet;
 import java.util.regex.Matcher;
 import java.util.regex.Pattern;
 
-/** What of ../shared/LANGUAGE.md, and of the document's face, can be seen without running the program. */
+/** The document's face, and words that ../shared/LANGUAGE.md leaves out; its other rules are RulesTest's. */
 public final class LanguageTest {
     private static final Check CHECK = new Check();
     private static final Path SOURCE = Path.of("src/main/java/LateMoons.java");
     private static final Path DOCUMENT = Path.of("../shared/DOC.md");
-    private static final Set<String> CALLS = Set.of("System.arraycopy", "Math.abs", "Math.min", "Math.max",
-        "Integer.bitCount");
 
     public static void main(String[] args) throws Exception {
         String source = bare(Files.readString(SOURCE));
         words(source);
-        libraryCalls(source);
-        methodLengths(source);
         face();
         members();
         CHECK.end();
@@ -41,29 +37,6 @@ public final class LanguageTest {
             "\\bdouble\\b", "\\bfloat\\b", "static\\s*\\{", "\\bprotected\\b", "@", "\\bSystem\\.(?!arraycopy)"};
         for (String word : none) {
             CHECK.due("uses of " + word, Pattern.compile(word).matcher(source).results().count(), 0);
-        }
-    }
-
-    private static void libraryCalls(String source) {
-        Matcher m = Pattern.compile("\\b[A-Z]\\w*\\.[a-z]\\w*\\(").matcher(source);
-        while (m.find()) {
-            String call = m.group().substring(0, m.group().length() - 1);
-            CHECK.due("the library's " + call + " is allowed", CALLS.contains(call) ? 1 : 0, 1);
-        }
-    }
-
-    private static void methodLengths(String source) {
-        String[] lines = source.split("\n");
-        Pattern head = Pattern.compile("^( {4}| {8})(public|private|static|final|\\w+(\\[\\])?) ?[^=;]*\\) \\{$");
-        for (int i = 0; i < lines.length; i++) {
-            Matcher m = head.matcher(lines[i]);
-            if (m.matches() && !lines[i].matches(" *(if|for|while|switch|else|do)\\b.*")) {
-                int end = i;
-                while (end < lines.length && !lines[end].equals(m.group(1) + "}")) {
-                    end++;
-                }
-                CHECK.due("at most 60 lines: " + lines[i].trim(), end - i > 60 ? 1 : 0, 0);
-            }
         }
     }
 
@@ -108,7 +81,6 @@ public final class LanguageTest {
             }
         }
         List<Class<?>> classes = new ArrayList<>(List.of(LateMoons.class.getDeclaredClasses()));
-        CHECK.due("at most twelve classes", classes.size() + 1 > 12 ? 1 : 0, 0);
         classes.add(LateMoons.class);
         for (Class<?> c : classes) {
             boolean isFace = c == LateMoons.class;
@@ -119,7 +91,6 @@ public final class LanguageTest {
                 CHECK.due(method + " is of the face or private",
                     !isFace || isPublic || Modifier.isPrivate(method.getModifiers()) ? 1 : 0, 1);
                 CHECK.due(method + " bears a public name", !isPublic && names.contains(method.getName()) ? 1 : 0, 0);
-                CHECK.due(method + " takes seven at most", method.getParameterCount() > 7 ? 1 : 0, 0);
             }
             fields(c, isFace);
         }
